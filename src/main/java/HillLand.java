@@ -289,7 +289,7 @@ public final class HillLand {
     // ---- what several calls need
 
     private void renew() {
-        land.tellAll(events);
+        land.tell(events, events.size());
         ends.doubt();
         telling.doubt();
     }
@@ -701,18 +701,21 @@ public final class HillLand {
         private final int[] cells = new int[CELLS];
 
         Column() {
-            fill(cells, 0, -LOWEST, ROOT);
-            fill(cells, -LOWEST, CELLS, NONE);
+            begin();
         }
 
         void become(Column column) {
             if (column != null) copy(column.cells, 0, cells, 0, CELLS);
         }
 
-        /** Becomes what the first so many EVENTS make of the COLUMN with this number. */
-        void tell(Tale tale, int many, int number) {
+        private void begin() {
             fill(cells, 0, -LOWEST, ROOT);
             fill(cells, -LOWEST, CELLS, NONE);
+        }
+
+        /** Becomes what the first so many EVENTS make of the COLUMN with this number. */
+        void tell(Tale tale, int many, int number) {
+            begin();
             for (int i = 0; i < many; i++) befall(tale, i, number);
         }
 
@@ -720,13 +723,14 @@ public final class HillLand {
             if (tale == null) return;
             int x = columnX(number), y = columnY(number);
             int a = tale.number(i, 0), b = tale.number(i, 1), c = tale.number(i, 2), d = tale.number(i, 3);
+            int step = stepOf(tale.kind(i) == Kinds.DYKE ? b : a, x, y);
             switch (tale.kind(i)) {
                 case Kinds.LAY: lay(a, b); break;
                 case Kinds.TILT: move(LOWEST, HIGHEST, slope(a, b, x, y)); break;
-                case Kinds.FOLD: move(LOWEST, HIGHEST, foldRise(b, c, d, stepOf(a, x, y))); break;
-                case Kinds.BREAK: slip(4 * (b - stepOf(a, x, y)), c, d); break;
+                case Kinds.FOLD: move(LOWEST, HIGHEST, foldRise(b, c, d, step)); break;
+                case Kinds.BREAK: move(firstBeyond(b - step, d), lastBeyond(b - step, d), c); break;
                 case Kinds.CUT: fillHeights(a + slope(b, c, x, y), HIGHEST, NONE); break;
-                case Kinds.DYKE: if (stepOf(b, x, y) >= c && stepOf(b, x, y) <= d) intrude(a, tale.number(i, 4)); break;
+                case Kinds.DYKE: if (step >= c && step <= d) intrude(a, tale.number(i, 4)); break;
                 default: break;
             }
         }
@@ -750,11 +754,14 @@ public final class HillLand {
             fillHeights(ground + 1, ground + thickness, bed);
         }
 
-        /** BEYOND is where lean times the height is at least the need: all, none, or all on one side. */
-        private void slip(int need, int by, int lean) {
-            if (lean > 0) move(-Math.floorDiv(-need, lean), HIGHEST, by);
-            else if (lean < 0) move(LOWEST, Math.floorDiv(need, lean), by);
-            else if (need <= 0) move(LOWEST, HIGHEST, by);
+        /** BEYOND is where lean times the height is at least 4 times the way to the plane: all, none, or one side. */
+        private static int firstBeyond(int way, int lean) {
+            if (lean > 0) return -Math.floorDiv(-4 * way, lean);
+            return lean == 0 && way > 0 ? HIGHEST + 1 : LOWEST;
+        }
+
+        private static int lastBeyond(int way, int lean) {
+            return lean < 0 ? Math.floorDiv(4 * way, lean) : HIGHEST;
         }
 
         /** CELLS from low to high get what was so much below them. */
@@ -816,8 +823,10 @@ public final class HillLand {
         }
 
         void countInto(int[] amounts) {
+            if (amounts == null) return;
             for (int i = 0; i < cells.length; i++) {
-                if (cells[i] != NONE) put(amounts, cells[i], get(amounts, cells[i]) + 1);
+                int bed = cells[i];
+                if (bed >= 0 && bed < amounts.length) amounts[bed]++;
             }
         }
 
@@ -832,17 +841,20 @@ public final class HillLand {
         }
 
         int unlikeCells(Column column) {
+            if (column == null) return 0;
+            int[] others = column.cells;
             int many = 0;
-            for (int i = 0; i < cells.length; i++) {
-                if (column == null || cells[i] != get(column.cells, i)) many++;
+            for (int i = 0; i < cells.length && i < others.length; i++) {
+                if (cells[i] != others[i]) many++;
             }
             return many;
         }
 
         boolean isLike(Column column) {
             if (column == null) return false;
-            for (int i = 0; i < cells.length; i++) {
-                if (cells[i] != get(column.cells, i)) return false;
+            int[] others = column.cells;
+            for (int i = 0; i < cells.length && i < others.length; i++) {
+                if (cells[i] != others[i]) return false;
             }
             return true;
         }
@@ -863,9 +875,18 @@ public final class HillLand {
             return all[n];
         }
 
-        void tellAll(Tale tale) {
-            if (tale == null) return;
-            for (int n = 0; n < all.length; n++) of(n).tell(tale, tale.size(), n);
+        /** Become what the first so many EVENTS make of a land. */
+        void tell(Tale tale, int many) {
+            for (int n = 0; n < all.length; n++) of(n).tell(tale, many, n);
+        }
+
+        /** Become what the EVENTS from one on, ahead of another, make of other COLUMNS. */
+        void goOnFrom(Columns others, Tale tale, int from, int end) {
+            if (others == null) return;
+            for (int n = 0; n < all.length; n++) {
+                of(n).become(others.of(n));
+                for (int i = from; i < end; i++) of(n).befall(tale, i, n);
+            }
         }
 
         int cellsOf(int bed) {
@@ -888,15 +909,19 @@ public final class HillLand {
 
     /** The least and the greatest AMOUNT of each BED over all lands of the LOOSE EVENTS. */
     private static final class Ends {
-        private static final int WAYS = 3;
         private final Tale varied = new Tale();
-        private final Columns land = new Columns(COLUMNS);
+        private final Columns[] stages = new Columns[MOST_LOOSE + 1];
+        private final Columns nowhere = new Columns(0);
         private final int[] looseAt = new int[MOST_LOOSE];
         private final int[] amounts = new int[BEDS];
         private final int[] least = new int[BEDS];
         private final int[] greatest = new int[BEDS];
         private int looseOnes = 0;
         private boolean isKnown = false;
+
+        Ends() {
+            for (int i = 0; i < stages.length; i++) stages[i] = new Columns(COLUMNS);
+        }
 
         void doubt() {
             isKnown = false;
@@ -912,43 +937,50 @@ public final class HillLand {
 
         void know(Tale tale) {
             if (isKnown || tale == null) return;
+            varied.become(tale);
+            findLoose();
             fill(least, 0, BEDS, COLUMNS * CELLS);
             fill(greatest, 0, BEDS, 0);
-            findLoose(tale);
-            int lands = 1;
-            for (int i = 0; i < looseOnes; i++) lands *= WAYS;
-            for (int way = 0; way < lands; way++) {
-                if (!vary(tale, way)) continue;
-                land.tellAll(varied);
-                measure();
-            }
+            stage(0).tell(varied, looseIndex(0));
+            vary(0);
             isKnown = true;
         }
 
-        private void findLoose(Tale tale) {
+        private void findLoose() {
             looseOnes = 0;
-            for (int i = 0; i < tale.size(); i++) {
-                if (!tale.isLoose(i) || looseOnes >= MOST_LOOSE) continue;
+            for (int i = 0; i < varied.size(); i++) {
+                if (!varied.isLoose(i) || looseOnes >= MOST_LOOSE) continue;
                 put(looseAt, looseOnes, i);
                 looseOnes++;
             }
         }
 
-        /** A way's figures by three tell what each LOOSE EVENT's main number gets: 1 less, nothing, 1 more. */
-        private boolean vary(Tale tale, int way) {
-            varied.become(tale);
-            int rest = way;
-            for (int i = 0; i < looseOnes; i++) {
-                int at = get(looseAt, i), kind = tale.kind(at), place = Kinds.mainPlace(kind);
-                int value = tale.number(at, place) + Math.floorMod(rest, WAYS) - 1;
-                if (!Kinds.suits(kind, place, value)) return false;
-                varied.setNumber(at, place, value);
-                rest = Math.floorDiv(rest, WAYS);
-            }
-            return true;
+        private int looseIndex(int level) {
+            return level < looseOnes ? get(looseAt, level) : varied.size();
         }
 
-        private void measure() {
+        private Columns stage(int level) {
+            if (level < 0 || level >= stages.length || stages[level] == null) return nowhere;
+            return stages[level];
+        }
+
+        /** A stage is the land ahead of a LOOSE EVENT; each of its three numbers makes the next stage. */
+        private void vary(int level) {
+            if (level >= looseOnes || level >= MOST_LOOSE) {
+                measure(stage(level));
+                return;
+            }
+            int i = looseIndex(level), kind = varied.kind(i), place = Kinds.mainPlace(kind), told = varied.number(i, place);
+            for (int by = -1; by <= 1; by++) {
+                if (!Kinds.suits(kind, place, told + by)) continue;
+                varied.setNumber(i, place, told + by);
+                stage(level + 1).goOnFrom(stage(level), varied, i, looseIndex(level + 1));
+                vary(level + 1);
+            }
+            varied.setNumber(i, place, told);
+        }
+
+        private void measure(Columns land) {
             land.countInto(amounts);
             for (int bed = 0; bed < BEDS; bed++) {
                 int amount = get(amounts, bed);
@@ -1168,7 +1200,7 @@ public final class HillLand {
 
     /** THE DRAWING within bounds for each STEP; the latest is kept, as calls ask for it height by height. */
     private static final class Drawing {
-        private static final int REACH = 20, SPAN = 41, FAR = 1000000;
+        private static final int REACH = 20, SPAN = 41, MOST_TURN = 80, FAR = 1000000;
         private final int[] low = new int[SIDE];
         private final int[] high = new int[SIDE];
         private final int[] drawnLow = new int[SIDE];
@@ -1228,13 +1260,20 @@ public final class HillLand {
         private void weigh(int step) {
             for (int behind = get(low, step - 1); behind <= get(high, step - 1); behind++) {
                 for (int own = get(low, step); own <= get(high, step); own++) {
-                    int least = FAR;
-                    for (int ahead = get(low, step + 1); ahead <= get(high, step + 1); ahead++) {
-                        least = Math.min(least, bendFrom(step, behind, own, ahead));
-                    }
-                    put(rest, spot(step, behind, own), least);
+                    put(rest, spot(step, behind, own), leastAhead(step, behind, own));
                 }
             }
+        }
+
+        /** Looks from the straight way on outward, until the turn alone bends as much as what was found. */
+        private int leastAhead(int step, int behind, int own) {
+            int from = get(low, step + 1), to = get(high, step + 1), straight = 2 * own - behind, least = FAR;
+            int nearest = Math.max(0, Math.max(from - straight, straight - to));
+            for (int turn = nearest; turn <= MOST_TURN && turn * turn < least; turn++) {
+                if (straight - turn >= from && straight - turn <= to) least = Math.min(least, bendFrom(step, behind, own, straight - turn));
+                if (straight + turn >= from && straight + turn <= to) least = Math.min(least, bendFrom(step, behind, own, straight + turn));
+            }
+            return least;
         }
 
         private int bendFrom(int step, int behind, int own, int ahead) {

@@ -21,9 +21,15 @@ public final class ModelTest {
     }
 
     public static void main(String[] args) {
-        int runs = args.length > 0 ? Integer.parseInt(args[0]) : 60;
-        for (int run = 0; run < runs; run++) new ModelTest(run).go(run % 5 == 0 ? 500 : 150);
-        for (int run = 0; run < 20 * runs; run++) new ModelTest(run).readTexts();
+        int runs = args.length > 0 ? Integer.parseInt(args[0]) : 15;
+        for (int run = 0; run < runs; run++) {
+            new ModelTest(run).go(run % 5 == 0 ? 500 : 150);
+            new ModelTest(run).drawings();
+            new ModelTest(run).rows();
+            new ModelTest(run).ends();
+            new ModelTest(run).tellings();
+            for (int texts = 0; texts < 10; texts++) new ModelTest(100 * run + texts).readTexts();
+        }
         Due.end();
     }
 
@@ -202,6 +208,66 @@ public final class ModelTest {
         is("story(" + told(k, i, j) + ")", land.story(k, i, j), model.story(k, i, j));
         is("next(" + told(k, what) + ")", land.next(k, what), model.next(k, what));
         if (any(0, 4) == 0) is("take(" + told(k, i) + ")", land.take(k, i), model.take(k, i));
+    }
+
+    /** Many tops of few beds in few column rows. */
+    private void drawings() {
+        for (int i = 0; i < 30; i++) {
+            int axis = i % 2, line = any(2, 3), step = any(0, 7), p = any(-24, 22), q = p + any(0, 8);
+            int x = axis == 0 ? step : line, y = axis == 0 ? line : step, b = any(6, 7);
+            is("sight(" + told(2, x, y, b, p, q) + ")", land.sight(2, x, y, b, p, q), model.sight(2, x, y, b, p, q));
+            if (any(0, 3) > 0) continue;
+            int k = any(-1, i), height = any(-1, 7);
+            is("draw(" + told(b, axis, line, k, height) + ")", land.draw(b, axis, line, k, height), model.draw(b, axis, line, k, height));
+        }
+    }
+
+    /** Claims of few weights, so that rows have like quarrels. */
+    private void rows() {
+        int n = run % 4 == 0 ? 8 : any(3, 6);
+        for (int i = 0; i < 24; i++) {
+            int a = any(0, n - 1), b = (a + any(1, n - 1)) % n, weight = run % 2 == 0 ? any(1, 3) : any(1, 99);
+            is("claim(" + told(a, b, weight) + ")", land.claim(a, b, weight), model.claim(a, b, weight));
+            if (any(0, 2) > 0) continue;
+            int one = any(0, n - 1), two = any(0, n - 1), at = any(-1, n - 1);
+            is("row(" + told(n, at) + ")", land.row(n, at), model.row(n, at));
+            is("sure(" + told(n, one, two) + ")", land.sure(n, one, two), model.sure(n, one, two));
+        }
+    }
+
+    /** Few events, of which up to five are loose. */
+    private void ends() {
+        for (int i = 0; i < 25; i++) {
+            if (model.count(0) < 6) event();
+            int at = any(0, 5), bed = bed(), what = any(1, 2);
+            boolean isLoose = any(0, 4) > 0;
+            is("loose(" + at + ", " + isLoose + ")", land.loose(at, isLoose), model.loose(at, isLoose));
+            is("amount(" + told(bed, what) + ")", land.amount(bed, what), model.amount(bed, what));
+            is("amount(" + told(15, what) + ")", land.amount(15, what), model.amount(15, what));
+            if (any(0, 5) == 0) is("undo()", land.undo(), model.undo());
+            if (any(0, 5) == 0) is("swap(" + at + ")", land.swap(at), model.swap(at));
+        }
+    }
+
+    /** Four events that may be, and few sights that most stories meet. */
+    private void tellings() {
+        for (int i = 0; i < 3; i++) event();
+        for (int i = 0; i < 4; i++) {
+            int kind = any(0, 5);
+            int[] n = numbers(kind);
+            is("maybe(" + kind + ", " + told(n) + ")", land.maybe(kind, n[0], n[1], n[2], n[3], n[4]),
+                model.maybe(kind, n[0], n[1], n[2], n[3], n[4]));
+        }
+        for (int i = 0; i < 12; i++) {
+            if (i % 3 == 0) sight();
+            int k = any(0, model.count(2)), fits = model.stories(k), at = any(0, fits), j = any(-1, 4), what = any(0, 2);
+            is("stories(" + k + ")", land.stories(k), fits);
+            is("story(" + told(k, at, j) + ")", land.story(k, at, j), model.story(k, at, j));
+            is("next(" + told(k, what) + ")", land.next(k, what), model.next(k, what));
+        }
+        int at = any(0, model.stories(0));
+        is("take(" + told(0, at) + ")", land.take(0, at), model.take(0, at));
+        for (int n = 0; n < 64; n++) is("skin of column " + n, land.skin(n % 8, n / 8, 0), model.skin(n % 8, n / 8, 0));
     }
 
     private void count() {
