@@ -6,6 +6,7 @@ public final class DrawingTest {
         unbound();
         boundByTops();
         asKnown();
+        drawnAnew();
         firstOfSeveral();
         severalTops();
         withinTwenty();
@@ -61,6 +62,21 @@ public final class DrawingTest {
         drawn(x, 4, 0, 3, -1, 0, 2, -1, -4, -7, -10, -13, -16, -19);
         x.sight(2, 7, 3, 4, 2, 2);
         drawn(x, 4, 0, 3, -1, 0, 2, 2, 2, 2, 2, 2, 2, 2);
+    }
+
+    /** A drawing is drawn anew where a bound alone has changed, below or above, at any step. */
+    private static void drawnAnew() {
+        HillLand x = tops(7, -40, 39);
+        drawnByTops(x, 0, -20, -20, -20, -20, -20, -20, -20, -20);
+        x.sight(2, 6, 7, 5, 8, 39);
+        drawnByTops(x, 0, -20, -16, -12, -8, -4, 0, 4, 8);
+        x.sight(2, 6, 0, 5, -2, 39);
+        drawnByTops(x, 0, -2, 0, 2, 4, 6, 8, 10, 12);
+        x.sight(2, 6, 7, 5, -40, 11);
+        drawnByTops(x, 0, 1, 2, 3, 4, 5, 6, 7, 8);
+        x.forget();
+        x.forget();
+        drawnByTops(x, 0, -20, -16, -12, -8, -4, 0, 4, 8);
     }
 
     private static void firstOfSeveral() {
