@@ -7,6 +7,7 @@ public final class DrawingTest {
         boundByTops();
         asKnown();
         drawnAnew();
+        drawnAnewByAll();
         firstOfSeveral();
         severalTops();
         withinTwenty();
@@ -77,6 +78,28 @@ public final class DrawingTest {
         x.forget();
         x.forget();
         drawnByTops(x, 0, -20, -16, -12, -8, -4, 0, 4, 8);
+    }
+
+    /** Drawn again where each bound below, or each above, has changed, and none of the others. */
+    private static void drawnAnewByAll() {
+        HillLand x = new HillLand();
+        for (int step = 0; step < 8; step++) {
+            x.sight(2, step, 1, 5, -11, 39);
+            x.sight(2, step, 2, 5, -11, 7);
+        }
+        drawn(x, 5, 0, 0, -1, 0, -20, -20, -20, -20, -20, -20, -20, -20);
+        drawn(x, 5, 0, 1, -1, 0, -11, -11, -11, -11, -11, -11, -11, -11);
+        x.sight(2, 3, 0, 5, -20, -20);
+        drawn(x, 5, 0, 2, -1, 0, -11, -11, -11, -11, -11, -11, -11, -11);
+        x.sight(2, 4, 1, 5, 8, 8);
+        drawn(x, 5, 0, 1, -1, 0, -8, -4, 0, 4, 8, 12, 16, 20);
+        Due.is("a drawing that there is not", x.sight(2, 4, 2, 5, 8, 8), 18);
+        Due.is("draw of 8 beyond 7", x.draw(5, 0, 2, -1, 0), Due.NOT);
+        drawn(x, 5, 0, 2, 18, 0, -11, -11, -11, -11, -11, -11, -11, -11);
+        x = tops(3, 5, 39);
+        for (int step = 0; step < 8; step++) x.sight(2, 5, step, 5, step == 3 ? 5 : -20, 7);
+        drawn(x, 5, 1, 6, -1, 0, -4, -1, 2, 5, 8, 11, 14, 17);
+        drawn(x, 5, 1, 5, -1, 0, 5, 5, 5, 5, 5, 5, 5, 5);
     }
 
     private static void firstOfSeveral() {
