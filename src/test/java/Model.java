@@ -54,6 +54,7 @@ final class Model {
     private final List<Sight> sights = new ArrayList<>();
     private final List<Claim> claims = new ArrayList<>();
     private final Map<Integer, List<Event>> versions = new HashMap<>();
+    private final Map<Integer, List<List<Integer>>> bestKnown = new HashMap<>();
     private final StringBuilder text = new StringBuilder();
     private int fault = NONE;
 
@@ -463,6 +464,7 @@ final class Model {
         if (out(a, 0, 7) || out(b, 0, 7) || a == b || out(weight, 1, 99)) return OUTSIDE;
         if (claims.size() == 24) return FULL;
         claims.add(new Claim(a, b, weight));
+        bestKnown.clear();
         return claims.size() - 1;
     }
 
@@ -487,6 +489,10 @@ final class Model {
     }
 
     private List<List<Integer>> bestRows(int n) {
+        return bestKnown.computeIfAbsent(n, this::findBestRows);
+    }
+
+    private List<List<Integer>> findBestRows(int n) {
         List<List<Integer>> all = new ArrayList<>(), best = new ArrayList<>();
         rows(n, new ArrayList<>(), all);
         int least = Integer.MAX_VALUE;

@@ -1,6 +1,7 @@
 import java.util.ArrayList;
 import java.util.Arrays;
 import java.util.List;
+import java.util.function.Supplier;
 
 /** Rows of calls that between them ask for all that an object holds; some of them change it as they go on. */
 final class Probe {
@@ -11,9 +12,14 @@ final class Probe {
 
     /** What all rows answer, each on an object of its own that these calls have led to. */
     static int[][] answers(List<Call> ahead) {
+        return answers(HillLand::new, ahead);
+    }
+
+    /** The same, of another that has the calls of the face. */
+    static int[][] answers(Supplier<Object> maker, List<Call> ahead) {
         int[][] answers = new int[ROWS.size()][];
         for (int row = 0; row < answers.length; row++) {
-            HillLand x = new HillLand();
+            Object x = maker.get();
             for (Call call : ahead) call.on(x);
             answers[row] = ROWS.get(row).stream().mapToInt(call -> call.on(x)).toArray();
         }

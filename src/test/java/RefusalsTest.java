@@ -13,6 +13,7 @@ public final class RefusalsTest {
         full();
         stories();
         drawings();
+        faultyReads();
         Due.end();
     }
 
@@ -159,5 +160,29 @@ public final class RefusalsTest {
         // what was drawn ahead of the refusal is drawn again
         refused(NOT, State.NEW, SOFAR, "draw 2 0 3 -1 0", APART, "draw 2 0 3 -1 0");
         refused(NOT, State.NEARLY, "draw 2 0 3 -1 0", "sight 2 4 3 2 39 39", "draw 2 0 3 -1 0");
+    }
+
+    /** A text with a FAULT leaves nothing of itself but the FAULT: all else is as the Model says. */
+    private static void faultyReads() {
+        faultyRead(State.NEARLY, "read");
+        faultyRead(State.FULL, "read", "feed 1 59", "read");
+        for (State state : List.of(State.NEW, State.SOME)) {
+            faultyRead(state, "feed 1 59", "read");
+            faultyRead(state, "read", "feed 8 " + text("lay 1 1;"), "feed 4 " + text("cut;"), "read");
+            faultyRead(state, "read", "feed 8 " + text("lay 9 99"), "read");
+            faultyRead(state, "read", "feed 3 " + text("dyk"), "read", "read", "feed 1 45", "read");
+        }
+    }
+
+    private static long text(String text) {
+        long packed = 0;
+        for (int i = 0; i < text.length(); i++) packed = packed << 8 | text.charAt(i);
+        return packed;
+    }
+
+    private static void faultyRead(State state, String... more) {
+        List<Call> calls = new ArrayList<>(state.calls());
+        for (String call : more) calls.add(Call.of(call));
+        Probe.same("after " + String.join(", ", more) + " with " + state, Probe.answers(calls), Probe.answers(Model::new, calls));
     }
 }
