@@ -719,6 +719,12 @@ public final class HillLand {
             for (int i = 0; i < many; i++) befall(tale, i, number);
         }
 
+        /** Becomes what the EVENTS from one on, ahead of another, make of the COLUMN as it was. */
+        void goOnFrom(Column before, Tale tale, int from, int end, int number) {
+            become(before);
+            for (int i = from; i < end; i++) befall(tale, i, number);
+        }
+
         void befall(Tale tale, int i, int number) {
             if (tale == null) return;
             int x = columnX(number), y = columnY(number);
@@ -822,11 +828,12 @@ public final class HillLand {
             return false;
         }
 
-        void countInto(int[] amounts) {
+        /** Adds the CELLS of each BED to a row in which BED 0 has this place. */
+        void countInto(int[] amounts, int place) {
             if (amounts == null) return;
             for (int i = 0; i < cells.length; i++) {
-                int bed = cells[i];
-                if (bed >= 0 && bed < amounts.length) amounts[bed]++;
+                int own = place + cells[i];
+                if (cells[i] != NONE && own >= 0 && own < amounts.length) amounts[own]++;
             }
         }
 
@@ -880,24 +887,10 @@ public final class HillLand {
             for (int n = 0; n < all.length; n++) of(n).tell(tale, many, n);
         }
 
-        /** Become what the EVENTS from one on, ahead of another, make of other COLUMNS. */
-        void goOnFrom(Columns others, Tale tale, int from, int end) {
-            if (others == null) return;
-            for (int n = 0; n < all.length; n++) {
-                of(n).become(others.of(n));
-                for (int i = from; i < end; i++) of(n).befall(tale, i, n);
-            }
-        }
-
         int cellsOf(int bed) {
             int many = 0;
             for (int n = 0; n < all.length; n++) many += of(n).cellsOf(bed);
             return many;
-        }
-
-        void countInto(int[] amounts) {
-            fill(amounts, 0, BEDS, 0);
-            for (int n = 0; n < all.length; n++) of(n).countInto(amounts);
         }
 
         int crossings(Tale tale) {
@@ -909,19 +902,15 @@ public final class HillLand {
 
     /** The least and the greatest AMOUNT of each BED over all lands of the LOOSE EVENTS. */
     private static final class Ends {
+        private static final int MOST_WAYS = 81;
         private final Tale varied = new Tale();
-        private final Columns[] stages = new Columns[MOST_LOOSE + 1];
-        private final Columns nowhere = new Columns(0);
+        private final Columns stages = new Columns(MOST_LOOSE + 1);
         private final int[] looseAt = new int[MOST_LOOSE];
-        private final int[] amounts = new int[BEDS];
+        private final int[] amounts = new int[MOST_WAYS * BEDS];
         private final int[] least = new int[BEDS];
         private final int[] greatest = new int[BEDS];
-        private int looseOnes = 0;
+        private int looseOnes = 0, ways = 0;
         private boolean isKnown = false;
-
-        Ends() {
-            for (int i = 0; i < stages.length; i++) stages[i] = new Columns(COLUMNS);
-        }
 
         void doubt() {
             isKnown = false;
@@ -939,10 +928,13 @@ public final class HillLand {
             if (isKnown || tale == null) return;
             varied.become(tale);
             findLoose();
-            fill(least, 0, BEDS, COLUMNS * CELLS);
-            fill(greatest, 0, BEDS, 0);
-            stage(0).tell(varied, looseIndex(0));
-            vary(0);
+            fill(amounts, 0, amounts.length, 0);
+            for (int n = 0; n < COLUMNS; n++) {
+                ways = 0;
+                stages.of(0).tell(varied, looseIndex(0), n);
+                vary(0, n);
+            }
+            measure();
             isKnown = true;
         }
 
@@ -959,33 +951,32 @@ public final class HillLand {
             return level < looseOnes ? get(looseAt, level) : varied.size();
         }
 
-        private Columns stage(int level) {
-            if (level < 0 || level >= stages.length || stages[level] == null) return nowhere;
-            return stages[level];
-        }
-
-        /** A stage is the land ahead of a LOOSE EVENT; each of its three numbers makes the next stage. */
-        private void vary(int level) {
+        /** A stage is the COLUMN ahead of a LOOSE EVENT; each of its three numbers makes the next stage, each last one a way. */
+        private void vary(int level, int column) {
             if (level >= looseOnes || level >= MOST_LOOSE) {
-                measure(stage(level));
+                stages.of(level).countInto(amounts, ways * BEDS);
+                ways++;
                 return;
             }
             int i = looseIndex(level), kind = varied.kind(i), place = Kinds.mainPlace(kind), told = varied.number(i, place);
             for (int by = -1; by <= 1; by++) {
                 if (!Kinds.suits(kind, place, told + by)) continue;
                 varied.setNumber(i, place, told + by);
-                stage(level + 1).goOnFrom(stage(level), varied, i, looseIndex(level + 1));
-                vary(level + 1);
+                stages.of(level + 1).goOnFrom(stages.of(level), varied, i, looseIndex(level + 1), column);
+                vary(level + 1, column);
             }
             varied.setNumber(i, place, told);
         }
 
-        private void measure(Columns land) {
-            land.countInto(amounts);
+        private void measure() {
             for (int bed = 0; bed < BEDS; bed++) {
-                int amount = get(amounts, bed);
-                put(least, bed, Math.min(amount, get(least, bed)));
-                put(greatest, bed, Math.max(amount, get(greatest, bed)));
+                int low = get(amounts, bed), high = low;
+                for (int way = 1; way < ways; way++) {
+                    low = Math.min(low, get(amounts, way * BEDS + bed));
+                    high = Math.max(high, get(amounts, way * BEDS + bed));
+                }
+                put(least, bed, low);
+                put(greatest, bed, high);
             }
         }
     }
@@ -1386,8 +1377,7 @@ public final class HillLand {
         private void tellColumn(Columns rows, Columns land, Tale mights, int number) {
             rows.of(0).become(land.of(number));
             for (int s = 1; s < size; s++) {
-                rows.of(s).become(rows.of(get(before, s)));
-                rows.of(s).befall(mights, get(added, s), number);
+                rows.of(s).goOnFrom(rows.of(get(before, s)), mights, get(added, s), get(added, s) + 1, number);
             }
         }
 
