@@ -8,6 +8,7 @@ public final class DrawingTest {
         asKnown();
         drawnAnew();
         drawnAnewByAll();
+        drawnAnewToZero();
         firstOfSeveral();
         severalTops();
         withinTwenty();
@@ -100,6 +101,20 @@ public final class DrawingTest {
         for (int step = 0; step < 8; step++) x.sight(2, 5, step, 5, step == 3 ? 5 : -20, 7);
         drawn(x, 5, 1, 6, -1, 0, -4, -1, 2, 5, 8, 11, 14, 17);
         drawn(x, 5, 1, 5, -1, 0, 5, 5, 5, 5, 5, 5, 5, 5);
+    }
+
+    /** Drawn again where each bound below, or each above, has become 0. */
+    private static void drawnAnewToZero() {
+        HillLand x = new HillLand();
+        for (int step = 0; step < 8; step++) x.sight(2, step, 0, 6, -5, 5);
+        for (int step = 0; step < 8; step++) x.sight(2, step, 0, 6, 0, 5);
+        drawn(x, 6, 0, 0, 8, 0, -5, -5, -5, -5, -5, -5, -5, -5);
+        drawn(x, 6, 0, 0, 16, 0, 0, 0, 0, 0, 0, 0, 0, 0);
+        x = new HillLand();
+        for (int step = 0; step < 8; step++) x.sight(2, step, 4, 6, step == 7 ? 0 : -5, 3);
+        for (int step = 0; step < 8; step++) x.sight(2, step, 4, 6, -20, 0);
+        drawn(x, 6, 0, 4, 8, 0, -5, -4, -3, -2, -1, 0, 1, 2);
+        drawn(x, 6, 0, 4, 16, 0, 0, 0, 0, 0, 0, 0, 0, 0);
     }
 
     private static void firstOfSeveral() {

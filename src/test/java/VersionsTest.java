@@ -6,6 +6,7 @@ public final class VersionsTest {
         promise19LooseAsThen();
         promise20Differ();
         promise20AlikeEvents();
+        promise20UndoneEvents();
         promise20Refusals();
         Due.end();
     }
@@ -138,6 +139,31 @@ public final class VersionsTest {
         x.event(0, 1, 1, 0, 0, 0);
         x.event(5, 3, 1, 2, 4, -7);
         Due.is("an unlike first event", x.differ(2, 3), 0);
+    }
+
+    /** What was undone ahead of keep() is no part of the version, though it is told once more. */
+    private static void promise20UndoneEvents() {
+        HillLand x = new HillLand();
+        for (int i = 0; i < 3; i++) x.event(1, i, 0, 0, 0, 0);
+        x.undo();
+        x.keep(1);
+        Due.is("an event told once more", x.event(1, 2, 0, 0, 0, 0), 2);
+        Due.is("is not in the version", x.differ(1, 3), 2);
+        x.keep(3);
+        x.undo();
+        Due.is("what is undone is not in the events", x.differ(3, 3), 2);
+        Due.is("back(1)", x.back(1), 2);
+        x.event(1, 2, 0, 0, 0, 0);
+        Due.is("all are in the greater version", x.differ(3, 3), 3);
+        Due.is("two in the lesser one", x.differ(1, 3), 2);
+        x.clear();
+        x.keep(0);
+        for (int i = 0; i < 3; i++) x.event(1, i, 0, 0, 0, 0);
+        Due.is("nothing is alike in an empty version", x.differ(0, 3), 0);
+        x.keep(2);
+        x.clear();
+        Due.is("nothing is alike without events", x.differ(2, 3), 0);
+        Due.is("an empty version is as no events", x.differ(0, 3), 0);
     }
 
     private static void promise20Refusals() {
