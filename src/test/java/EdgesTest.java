@@ -9,6 +9,7 @@ public final class EdgesTest {
         landAllAir();
         breaksAtTheirGreatest();
         breaksUpToTheTop();
+        breaksOfOneCell();
         tiltsAtTheirGreatest();
         cutsAtTheEnds();
         dykesAtTheEnds();
@@ -207,6 +208,24 @@ public final class EdgesTest {
         Due.is("-28 takes -12, which is air", x.at(0, 0, -28), Due.NONE);
         Due.is("-31 takes -15", x.at(0, 0, -31), 15);
         Due.is("-27 is not beyond", x.at(0, 0, -27), 15);
+    }
+
+    /** Of all that is beyond a leaning plane, but one cell takes what is in the land; or two do, or none. */
+    private static void breaksOfOneCell() {
+        String capped = "break x 0 16 0;break x 0 16 0;break x 0 8 0;cut 39 0 0;lay 7 1;";
+        // step 0: h is 28 or more
+        cells(told(capped + "break x 7 -10 1;"), 27, 15, 15, 7, Due.NONE);
+        cells(told(capped + "break x 7 -11 1;"), 27, 15, 7, Due.NONE, Due.NONE);
+        cells(told(capped + "break x 7 -12 1;"), 27, 15, Due.NONE, Due.NONE, Due.NONE);
+        // step 0: -h is 28 or more
+        cells(told("dyke 3 x 0 7 -40;break x 7 11 -1;"), -30, 15, 3, 15, 15);
+        cells(told("dyke 3 x 0 7 -40;break x 7 12 -1;"), -30, 15, 15, 3, 15);
+        cells(told("dyke 3 x 0 7 -40;break x 7 13 -1;"), -30, 15, 15, 15, 15);
+    }
+
+    /** What is in column (0, 0) from a height up. */
+    private static void cells(HillLand x, int from, int... beds) {
+        for (int i = 0; i < beds.length; i++) Due.is("at(0, 0, " + (from + i) + ")", x.at(0, 0, from + i), beds[i]);
     }
 
     private static void tiltsAtTheirGreatest() {
